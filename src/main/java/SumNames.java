@@ -879,6 +879,9 @@ public final class SumNames {
         private int begin = 0;
         private int bytes = 0;
         private long value = 0;
+        // of the person whose line is read
+        private int parent = NONE;
+        private int otherParent = NONE;
 
         /** False, and nothing is added, if there is no room for all. */
         boolean append(long more, int n) {
@@ -896,10 +899,11 @@ public final class SumNames {
         int read(World world) {
             draft.takeFrom(world);
             place = 0;
-            for (lines = 1; lines <= MOST_LINES; lines++) {
+            for (int line = 1; line <= MOST_LINES; line++) {
                 if (!readLine()) {
                     return begin;
                 }
+                lines = line;
                 readToken();
                 if (token == END) {
                     return NONE;
@@ -924,10 +928,10 @@ public final class SumNames {
                 return readWord(MOST_LETTERS_OF_SYLLABLE) && draft.addSyllable(value);
             }
             if (says("first")) {
-                return readFirst();
+                return draft.personCount < MOST_PERSONS && readNoParents() && readBirth();
             }
             if (says("child")) {
-                return readChild();
+                return draft.personCount < MOST_PERSONS && readParents() && readBirth();
             }
             if (says("call")) {
                 return readCall();
@@ -953,22 +957,25 @@ public final class SumNames {
             return true;
         }
 
-        private boolean readFirst() {
-            return draft.personCount < MOST_PERSONS && readBirth(NONE, NONE);
+        private boolean readNoParents() {
+            parent = NONE;
+            otherParent = NONE;
+            return true;
         }
 
-        private boolean readChild() {
-            if (draft.personCount >= MOST_PERSONS || !readPerson()) {
+        private boolean readParents() {
+            if (!readPerson()) {
                 return false;
             }
-            int parent = (int) value;
+            parent = (int) value;
             if (!readPerson() || value == parent) {
                 return false;
             }
-            return readBirth(parent, (int) value);
+            otherParent = (int) value;
+            return true;
         }
 
-        private boolean readBirth(int parent, int otherParent) {
+        private boolean readBirth() {
             if (!readNumber(1, LAST_DAY)) {
                 return false;
             }
@@ -1052,35 +1059,38 @@ public final class SumNames {
             return true;
         }
 
+        /** A row too long for any code or number is refused by its bytes, so that its value may be anything. */
         private void readToken() {
             while (place < length && text[place] == BLANK) {
                 place++;
             }
             begin = place;
             value = 0;
-            token = place < length ? kindOfByte(text[place]) : END;
-            if (token == WORD || token == NUMBER) {
-                readRow();
-            } else if (token == SIGN) {
-                value = text[place];
+            token = kindAt(place);
+            boolean more = place < length;
+            while (more && place < length) {
+                value = valueWith(text[place]);
                 place++;
+                more = token != SIGN && kindAt(place) == token;
             }
             bytes = place - begin;
         }
 
-        /** A row too long for any code or number is refused by its bytes, so that its value may be anything. */
-        private void readRow() {
-            while (place < length && kindOfByte(text[place]) == token) {
-                value = token == WORD ? value * BASE + text[place] - 'a' + 1 : value * 10 + text[place] - '0';
-                place++;
+        private long valueWith(int sign) {
+            if (token == WORD) {
+                return value * BASE + sign - 'a' + 1;
             }
+            return token == NUMBER ? value * 10 + sign - '0' : sign;
         }
 
-        private static int kindOfByte(int sign) {
-            if (sign >= 'a' && sign <= 'z') {
+        private int kindAt(int at) {
+            if (at >= length) {
+                return END;
+            }
+            if (text[at] >= 'a' && text[at] <= 'z') {
                 return WORD;
             }
-            return sign >= '0' && sign <= '9' ? NUMBER : SIGN;
+            return text[at] >= '0' && text[at] <= '9' ? NUMBER : SIGN;
         }
     }
 
