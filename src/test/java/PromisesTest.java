@@ -1,11 +1,5 @@
 /** Each promise by its number: ordinary calls, the edges that the document names, and wrong ones; answers worked out by hand. */
-public final class PromisesTest {
-    private static final int NONE = -1, UNKNOWN = -2, OUTSIDE = -3, NOT = -4, FULL = -5, NULL = -11, CAST = -12, INDEX = -13, SIZE = -14;
-    private static final int HUGE = Integer.MAX_VALUE, LOW = Integer.MIN_VALUE;
-    private static int promise = 0;
-    private static int checked = 0;
-    private static int wrong = 0;
-
+public final class PromisesTest extends Answers {
     public static void main(String[] args) {
         newObject();
         write();
@@ -41,63 +35,11 @@ public final class PromisesTest {
         keepAndBack();
         count();
         fullRun();
-        System.out.println(checked + " answers, " + wrong + " not as due");
-        if (wrong != 0) {
-            System.exit(1);
-        }
-    }
-
-    private static void due(String call, long got, long want) {
-        checked++;
-        if (got != want) {
-            wrong++;
-            System.out.println("promise " + promise + ": " + call + " answered " + got + ", due is " + want);
-        }
-    }
-
-    private static void put(SumNames x, String text) {
-        for (int from = 0; from < text.length(); from += 8) {
-            int n = Math.min(8, text.length() - from);
-            long bytes = 0;
-            for (int i = 0; i < n; i++) {
-                bytes |= (long) text.charAt(from + i) << 8 * i;
-            }
-            x.write(bytes, n);
-        }
-    }
-
-    /** A new object to which texts are told, each of which must be without a fault. */
-    private static SumNames with(String... texts) {
-        SumNames x = new SumNames();
-        tell(x, texts);
-        return x;
-    }
-
-    private static void tell(SumNames x, String... texts) {
-        for (String text : texts) {
-            put(x, text);
-            due("told() of '" + text + "'", x.told(), text.split(";").length);
-        }
-    }
-
-    private static void faultAt(SumNames x, String text, int place) {
-        x.erase();
-        put(x, text);
-        due("fault() of '" + text + "'", x.fault(), place);
-        due("fault() once more of '" + text + "'", x.fault(), place);
-        x.erase();
-    }
-
-    private static long code(String word) {
-        long code = 0;
-        for (char c : word.toCharArray()) {
-            code = 27 * code + c - 'a' + 1;
-        }
-        return code;
+        finish();
     }
 
     private static void newObject() {
-        promise = 1;
+        where = "promise 1";
         SumNames x = new SumNames();
         for (int i = 0; i < 26; i++) {
             due("letter(" + i + ")", x.letter(i), i + 1);
@@ -115,7 +57,7 @@ public final class PromisesTest {
     }
 
     private static void write() {
-        promise = 2;
+        where = "promise 2";
         SumNames x = new SumNames();
         due("write(0, 0)", x.write(0, 0), OUTSIDE);
         due("write(0, 9)", x.write(0, 9), OUTSIDE);
@@ -139,7 +81,7 @@ public final class PromisesTest {
     }
 
     private static void erase() {
-        promise = 3;
+        where = "promise 3";
         SumNames x = new SumNames();
         due("erase()", x.erase(), 0);
         put(x, "syl abc;bad");
@@ -152,7 +94,7 @@ public final class PromisesTest {
     }
 
     private static void faultOfGrammar() {
-        promise = 4;
+        where = "promise 4";
         SumNames x = with("first 6 abc;first 5 -;syl a");
         faultAt(x, "", 0);
         faultAt(x, "   ", 3);
@@ -220,7 +162,7 @@ public final class PromisesTest {
     }
 
     private static void faultOfBounds() {
-        promise = 4;
+        where = "promise 4";
         SumNames x = with("first 6 abc;first 5 -");
         faultAt(x, "letter x 0", NONE);
         faultAt(x, "letter x 99", NONE);
@@ -268,7 +210,7 @@ public final class PromisesTest {
     }
 
     private static void faultByLinesAhead() {
-        promise = 4;
+        where = "promise 4";
         SumNames x = new SumNames();
         faultAt(x, "first 1 a;call 0 b", NONE);
         faultAt(x, "call 0 b;first 1 a", 5);
@@ -305,7 +247,7 @@ public final class PromisesTest {
     }
 
     private static void told() {
-        promise = 5;
+        where = "promise 5";
         SumNames x = new SumNames();
         due("told() of nothing", x.told(), NOT);
         put(x, "letter a 9;syl xyz;first 3 a;hope 2 2;degrees 1;call 1 b");
@@ -337,7 +279,7 @@ public final class PromisesTest {
     }
 
     private static void letter() {
-        promise = 6;
+        where = "promise 6";
         SumNames x = with("letter b 0;letter z 99");
         due("letter(0)", x.letter(0), 1);
         due("letter(1)", x.letter(1), 0);
@@ -354,7 +296,7 @@ public final class PromisesTest {
     }
 
     private static void person() {
-        promise = 7;
+        where = "promise 7";
         SumNames x = family();
         int[][] rows = {{6, NONE, NONE, 0}, {9, NONE, NONE, 0}, {20, 1, 0, 1}, {20, 0, 1, 2}, {21, 0, 1, 1}, {30, NONE, NONE, 0}, {40, 4, 5, 1}, {40, 6, 5, 1}};
         for (int p = 0; p < 8; p++) {
@@ -387,7 +329,7 @@ public final class PromisesTest {
     }
 
     private static void called() {
-        promise = 8;
+        where = "promise 8";
         SumNames x = family();
         due("called(0)", x.called(0), 786);
         due("called(1)", x.called(1), 0);
@@ -400,7 +342,7 @@ public final class PromisesTest {
     }
 
     private static void degrees() {
-        promise = 9;
+        where = "promise 9";
         SumNames x = family();
         due("degrees(0, 0)", x.degrees(0, 0), 0);
         due("degrees(0, 1), by a child", x.degrees(0, 1), 2);
@@ -425,7 +367,7 @@ public final class PromisesTest {
     }
 
     private static void as() {
-        promise = 10;
+        where = "promise 10";
         SumNames x = family();
         due("as(0, 0)", x.as(0, 0), 7);
         due("as(0, 1)", x.as(0, 1), 7);
@@ -445,7 +387,7 @@ public final class PromisesTest {
     }
 
     private static void sum() {
-        promise = 11;
+        where = "promise 11";
         SumNames x = with("letter b 0;letter c 99");
         due("sum(a)", x.sum(1), 1);
         due("sum(z)", x.sum(26), 26);
@@ -463,7 +405,7 @@ public final class PromisesTest {
     }
 
     private static void name() {
-        promise = 12;
+        where = "promise 12";
         SumNames x = with("syl ab;syl a;syl bca");
         String[] names = {"a", "ab", "bca", "aa", "aaa", "aba", "abab", "aab", "abca", "bcaa", "bcabcabca", "abbcaa", "ababab"};
         String[] others = {"b", "bc", "aaaa", "abb", "ba", "aabaa", "bcabcabc", "bcabcabcb", "abababa", "zzzzzzzzz"};
@@ -493,7 +435,7 @@ public final class PromisesTest {
     }
 
     private static void judge() {
-        promise = 13;
+        where = "promise 13";
         SumNames x = judged();
         int[] due = {4, 3, 4, 1, 0, 2, 0};
         for (int p = 0; p < 7; p++) {
@@ -511,7 +453,7 @@ public final class PromisesTest {
     }
 
     private static void taker() {
-        promise = 14;
+        where = "promise 14";
         SumNames x = judged();
         int[] due = {2, NONE, 0, NONE, NONE, NONE, NONE};
         for (int p = 0; p < 7; p++) {
@@ -528,7 +470,7 @@ public final class PromisesTest {
     }
 
     private static void names() {
-        promise = 15;
+        where = "promise 15";
         // a 1, b 2, ab 3: of 3 letters aab is a.ab and a.a.b, but one name
         SumNames x = with("syl a;syl b;syl ab");
         int[][] due = {{1, 1, 0, 0}, {2, 1, 1, 0}, {3, 0, 2, 1}, {4, 0, 1, 3}, {5, 0, 0, 3}, {6, 0, 0, 1}};
@@ -565,7 +507,7 @@ public final class PromisesTest {
     }
 
     private static void which() {
-        promise = 16;
+        where = "promise 16";
         SumNames x = with("syl b;syl ab;syl a");
         String[] five = {"abb", "bab", "bba", "aaab", "aaba", "abaa"};
         for (int i = 0; i < five.length; i++) {
@@ -584,7 +526,7 @@ public final class PromisesTest {
     }
 
     private static void free() {
-        promise = 17;
+        where = "promise 17";
         SumNames x = with("syl a;syl b;first 3 aaa;first 3 ab;child 0 1 3 ba;child 0 1 3 ba;first 3 aaa");
         // of 3: ab, ba, aaa
         due("free(4, NONE), nobody near", x.free(4, NONE), 3);
@@ -608,13 +550,8 @@ public final class PromisesTest {
         due("free(-1, 0)", x.free(-1, 0), UNKNOWN);
     }
 
-    private static void chance(SumNames x, int one, int other, long above, long below) {
-        due("hopes(" + one + ", " + other + ", 0)", x.hopes(one, other, 0), above);
-        due("hopes(" + one + ", " + other + ", 1)", x.hopes(one, other, 1), below);
-    }
-
     private static void hopes() {
-        promise = 18;
+        where = "promise 18";
         SumNames x = with("syl a;syl b;first 3 aaa;first 3 c;child 0 1 9 ab;first 9 ba;child 2 3 9 -");
         chance(x, 0, 1, 1, 1);
         tell(x, "hope 3 5;hope 3 5");
@@ -652,7 +589,7 @@ public final class PromisesTest {
     }
 
     private static void without() {
-        promise = 19;
+        where = "promise 19";
         // 2, 5; 4, 7, 10; 6, 9, 12, 15
         SumNames x = with("syl b;syl e");
         due("without(1, 15, 0)", x.without(1, 15, 0), 6);
@@ -680,7 +617,7 @@ public final class PromisesTest {
     }
 
     private static void mend() {
-        promise = 20;
+        where = "promise 20";
         SumNames x = with("syl b;syl e");
         due("mend(4, 7)", x.mend(4, 7), 0);
         due("mend(1, 1)", x.mend(1, 1), code("a"));
@@ -711,7 +648,7 @@ public final class PromisesTest {
     }
 
     private static void old() {
-        promise = 21;
+        where = "promise 21";
         SumNames x = new SumNames();
         due("old(1, NONE), no words", x.old(1, NONE), 1);
         due("old(1, 0), no words", x.old(1, 0), 0);
@@ -777,7 +714,7 @@ public final class PromisesTest {
     }
 
     private static void reform() {
-        promise = 22;
+        where = "promise 22";
         // 0: ab is 3, wants 10; 1: a adds up; 2: c does not
         SumNames x = with("first 10 ab;first 1 a;first 7 c;first 5 -");
         reformed(x, 0, 1, 9, 0);
@@ -824,7 +761,7 @@ public final class PromisesTest {
     }
 
     private static void nicknames() {
-        promise = 23;
+        where = "promise 23";
         SumNames x = with("syl a;syl b;syl ba;first 6 abab;first 6 ab;first 7 a;first 6 -", "first 5 bab;first 12 aabbaa");
         // of abab without all: a b aa ab ba bb aba abb aab bab; sums dividing 6: a1 b2 aa2 ab3 ba3; bb, aba 4, aab 4, abb, bab 5
         due("nicknames(0, 0)", x.nicknames(0, 0), 5);
@@ -855,7 +792,7 @@ public final class PromisesTest {
     }
 
     private static void page() {
-        promise = 24;
+        where = "promise 24";
         SumNames x = with("first 6 abc;first 9 -;first 7 z;first 1 a;letter y 2;letter x 0");
         due("page(0, 0, 0)", x.page(0, 0, 0), 0);
         due("page(0, 0, 1)", x.page(0, 0, 1), NONE);
@@ -893,7 +830,7 @@ public final class PromisesTest {
     }
 
     private static void sheet() {
-        promise = 25;
+        where = "promise 25";
         SumNames x = new SumNames();
         due("sheet(0, 0, 0)", x.sheet(0, 0, 0), 1);
         due("count(5)", x.count(5), 0);
@@ -916,7 +853,7 @@ public final class PromisesTest {
     }
 
     private static void tear() {
-        promise = 26;
+        where = "promise 26";
         SumNames x = new SumNames();
         due("tear(1), missing already", x.tear(1), 1);
         x.sheet(1, 1, 4);
@@ -928,7 +865,7 @@ public final class PromisesTest {
     }
 
     private static void lay() {
-        promise = 27;
+        where = "promise 27";
         SumNames x = new SumNames();
         due("lay(0, 99, 1)", x.lay(0, 99, 1), NULL);
         due("lay(3, 0, 1)", x.lay(3, 0, 1), UNKNOWN);
@@ -953,7 +890,7 @@ public final class PromisesTest {
     }
 
     private static void copy() {
-        promise = 28;
+        where = "promise 28";
         SumNames x = new SumNames();
         due("copy(0, 0, 1, 0, 0)", x.copy(0, 0, 1, 0, 0), NULL);
         x.sheet(0, 2, 5);
@@ -974,26 +911,16 @@ public final class PromisesTest {
             x.lay(0, i, 201 + 3 * i);
         }
         due("copy(0, 2, 1, 0, 3)", x.copy(0, 2, 1, 0, 3), 1);
-        items(x, 1, 207, 210, 213);
+        items(x, 1, 2, 207, 210, 213);
         due("copy(0, 0, 0, 1, 4), over itself upwards", x.copy(0, 0, 0, 1, 4), 1);
-        items(x, 0, 201, 201, 204, 207, 210);
+        items(x, 0, 2, 201, 201, 204, 207, 210);
         due("copy(0, 1, 0, 0, 4), over itself downwards", x.copy(0, 1, 0, 0, 4), 1);
-        items(x, 0, 201, 204, 207, 210, 210);
-        items(x, 1, 207, 210, 213);
-    }
-
-    /** Reads items of lane 2, told as threefold numbers above 200: a child sure to come that day has a name by that number alone. */
-    private static void items(SumNames x, int sheet, int... due) {
-        for (int i = 0; i < due.length; i++) {
-            tell(x, "forget;first 1 -;first 1 -;syl aaa;letter a " + due[i] / 3);
-            x.hope(sheet, 2, i, 1, 10);
-            due("hopes(0, 1, 0), item " + i + " being " + due[i], x.hopes(0, 1, 0), 1);
-        }
-        tell(x, "forget;letter a 1");
+        items(x, 0, 2, 201, 204, 207, 210, 210);
+        items(x, 1, 2, 207, 210, 213);
     }
 
     private static void hope() {
-        promise = 29;
+        where = "promise 29";
         SumNames x = new SumNames();
         due("hope(0, 0, 0, 1, 1)", x.hope(0, 0, 0, 1, 1), NULL);
         due("hope(3, 9, 0, 1, 1)", x.hope(3, 9, 0, 1, 1), UNKNOWN);
@@ -1032,14 +959,14 @@ public final class PromisesTest {
     }
 
     private static void keepAndBack() {
-        promise = 30;
+        where = "promise 30";
         SumNames x = with("syl a;first 1 a;first 2 aa;hope 1 5;degrees 2;letter b 7");
         put(x, "syl x");
         x.sheet(0, 0, 4);
         due("keep(0)", x.keep(0), 2);
         due("keep(2)", x.keep(2), UNKNOWN);
         due("keep(-1)", x.keep(-1), UNKNOWN);
-        promise = 31;
+        where = "promise 31";
         due("back(1)", x.back(1), NOT);
         due("back(2)", x.back(2), UNKNOWN);
         due("back(-1)", x.back(-1), UNKNOWN);
@@ -1075,7 +1002,7 @@ public final class PromisesTest {
     }
 
     private static void count() {
-        promise = 32;
+        where = "promise 32";
         SumNames x = with("syl a;syl b;first 1 a;hope 1 5;hope 1 5;hope 1 5;degrees 4");
         put(x, "forge");
         x.sheet(0, 0, 0);
@@ -1091,7 +1018,7 @@ public final class PromisesTest {
 
     /** Kin change while the rest stays: what is asked after a text is not what was asked before it. */
     private static void fullRun() {
-        promise = 17;
+        where = "promise 17";
         SumNames x = with("syl a;syl b;first 3 ab;first 3 ba;first 3 aaa");
         due("free(2, NONE)", x.free(2, NONE), 3);
         tell(x, "child 0 2 9 -");
