@@ -3,8 +3,10 @@ import java.util.TreeMap;
 
 /** Runs of calls drawn from a fixed seed, each answered by the class and by the plain model. */
 public final class AgainstPlainModelTest {
-    private static final int RUNS = 400;
-    private static final int CALLS = 160;
+    private static final int RUNS = 1300;
+    // beyond these an object may answer as it likes
+    private static final int MOST_CALLS = 512;
+    private static final int CALLS_OF_A_STEP = 60;
     private static int wrong = 0;
     private static int calls = 0;
     private static final TreeMap<String, Integer> SEEN = new TreeMap<>();
@@ -13,6 +15,7 @@ public final class AgainstPlainModelTest {
     private final SumNames x = new SumNames();
     private final PlainModel m = new PlainModel();
     private final int run;
+    private int made = 0;
     // few letters and low days, else hardly a name is taken and hardly a day has one
     private final int alphabet;
     private final int lastDay;
@@ -68,6 +71,7 @@ public final class AgainstPlainModelTest {
 
     private void due(String call, long got, long want) {
         calls++;
+        made++;
         String name = call.substring(0, call.indexOf('('));
         String kind = want < 0 || want == 0 || name.equals("judge") ? Long.toString(want) : "+";
         SEEN.merge(name + " " + kind, 1, Integer::sum);
@@ -86,7 +90,7 @@ public final class AgainstPlainModelTest {
             due("erase()", x.erase(), m.erase());
             due("sheet(" + i + ", " + i + ", 8)", x.sheet(i, i, 8), m.sheet(i, i, 8));
         }
-        for (int i = 0; i < CALLS && wrong < 20; i++) {
+        while (made < MOST_CALLS - CALLS_OF_A_STEP && wrong < 20) {
             int kind = random.nextInt(10);
             if (kind < 3) {
                 text();
@@ -147,7 +151,7 @@ public final class AgainstPlainModelTest {
     }
 
     private void writeAll(String text) {
-        for (int from = 0; from < text.length();) {
+        for (int from = 0; from < text.length() && made < MOST_CALLS - 8;) {
             int n = Math.min(1 + below(8), text.length() - from);
             long bytes = below(3) == 0 && n < 8 ? random.nextLong() << 8 * n : 0;
             for (int i = 0; i < n; i++) {

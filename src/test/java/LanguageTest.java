@@ -131,23 +131,17 @@ public final class LanguageTest {
         }
     }
 
-    private static void put(SumNames x, String text) {
-        for (char c : text.toCharArray()) {
-            x.write(c, 1);
-        }
-    }
-
     /** The dearest state: 1000 names of one day, 16 persons, 6 hopes; no call in it makes anything, but an image the first time. */
     private static void checkRoom() {
         SumNames x = new SumNames();
         String[] texts = {"syl a;syl b;syl c;syl d;syl e;syl f;syl g;syl h", "syl i;syl j;letter a 1;letter b 1;letter c 1;letter d 1",
             "letter e 1;letter f 1;letter g 1;letter h 1;letter i 1;letter j 1", "hope 3 5;hope 3 5;hope 3 5;hope 3 5;hope 3 5;hope 3 5"};
         for (String text : texts) {
-            put(x, text);
+            Answers.put(x, text);
             must(x.told() > 0, "a fault in " + text);
         }
         for (int i = 0; i < 16; i++) {
-            put(x, i < 2 ? "first 25 edcba" : "child 0 1 25 edcba");
+            Answers.put(x, i < 2 ? "first 25 edcba" : "child 0 1 25 edcba");
             must(x.told() == 1, "a fault at person " + i);
         }
         x.sheet(0, 2, 20);
@@ -157,11 +151,11 @@ public final class LanguageTest {
         com.sun.management.ThreadMXBean threads = (com.sun.management.ThreadMXBean) ManagementFactory.getThreadMXBean();
         long id = Thread.currentThread().getId();
         long before = threads.getThreadAllocatedBytes(id);
-        for (int i = 0; i < 16; i++) {
+        for (int i = 0; i < 10; i++) {
             callAll(x);
         }
         long made = threads.getThreadAllocatedBytes(id) - before;
-        must(made < 20000, "512 calls made " + made + " bytes of objects");
+        must(made < 10000, "310 calls made " + made + " bytes of objects");
     }
 
     private static long callAll(SumNames x) {

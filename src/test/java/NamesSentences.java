@@ -200,6 +200,7 @@ final class NamesSentences extends Sentences {
             due("mend(8, 8), d twice", x.mend(8, 8), code("d"));
             tell(x, "letter z 99");
             due("mend(396, 396), z there is, zz not", x.mend(396, 396), code("zz"));
+            due("mend(396, 396) once more", x.mend(396, 396), code("zz"));
         });
         sentence("by which none of them is without;", () -> {
             SumNames x = with("syl b");

@@ -79,6 +79,15 @@ final class OldSentences extends Sentences {
             due("old(9, NONE), at odds", x.old(9, NONE), 0);
             tell(x, "forget;first 25 abcde");
             due("old(9, NONE) of five", x.old(9, NONE), 3951);
+            SumNames all = with("first 2 a;first 4 aa;first 6 aaa;first 8 aaaa;first 3 b;first 6 bb;first 5 ab;first 18 aaaaaaaaa",
+                "first 7 aab;first 8 bba;first 9 c;first 11 ca;first 12 cb;first 14 cab;first 9 d;first 10 de");
+            due("old(9, NONE) of 16", all.old(9, NONE), 1);
+            tell(all, "call 15 d");
+            due("old(9, NONE) of 16 that are at odds", all.old(9, NONE), 0);
+            tell(all, "forget;first 2 edcba");
+            due("old(9, NONE), too few", all.old(9, NONE), 0);
+            tell(all, "forget;first 25 edcba");
+            due("old(9, NONE), nothing is left of those forgotten", all.old(9, NONE), 3951);
         });
         sentence("the first (by the NUMBER of the first LETTER, then of the next).", () -> {
             SumNames x = with("first 25 edcba");
@@ -177,6 +186,10 @@ final class OldSentences extends Sentences {
             nicknamed(with("syl z;syl ab;first 78 abz"), 0, 2, "z");
             nicknamed(with("syl ba;syl ab;first 3 bab"), 0, 2, "ab");
             nicknamed(with("syl z;letter z 1;first 400 zzzzzzzzz"), 0, 2, "z");
+            nicknamed(with("syl a;syl b;first 4 bb"), 0, 1, "b");
+            // all 1110 names divide the day
+            nicknamed(with("letter a 1;letter b 1;letter c 1;letter d 1;letter e 1;letter f 1;letter g 1;letter h 1",
+                "letter i 1;letter j 1;syl a;syl b;syl c;syl d;syl e;syl f", "syl g;syl h;syl i;syl j;first 6 jjjj"), 0, 3, "j");
         });
     }
 
@@ -257,6 +270,7 @@ final class OldSentences extends Sentences {
                 due("old(5, " + letter + "), no way", x.old(5, letter), NONE);
                 due("old(6, " + letter + ")", x.old(6, letter), letter == 0 || letter == 25 ? 6 : 0);
                 due("old(9, " + letter + "), nobody is called", new SumNames().old(9, letter), 0);
+                due("old(9, " + letter + ") of five", with("first 45 vwxyz").old(9, letter), letter < 21 ? 0 : 9);
             }
         });
         sentence("UNKNOWN;", () -> {
@@ -285,6 +299,7 @@ final class OldSentences extends Sentences {
         section("Promise 22");
         sentence("REFORM: the LETTER (what 0), its NUMBER (1), how many are called anew (2); NONE.", () -> {
             reformed(with("first 30 z;first 26 z"), 0, 25, 30, 1);
+            reformed(with("first 26 z;first 30 z"), 1, 25, 30, 1);
             reformed(with("first 100 z;first 26 z"), 0, NONE, NONE, NONE);
         });
         sentence("UNKNOWN;", () -> {

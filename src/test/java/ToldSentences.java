@@ -95,6 +95,10 @@ final class ToldSentences extends Sentences {
             due("name(abc), c being 0", x.name(code("abc")), 0);
             due("name(dabcda), c being 0", x.name(code("dabcda")), 0);
             due("name(d), d being 1", x.name(code("d")), 1);
+            tell(x, "letter c 3;letter a 0");
+            due("name(abc), the first letter being 0", x.name(code("abc")), 0);
+            due("name(adddddddd), the first of nine being 0", with("syl add;syl ddd;letter a 0").name(code("adddddddd")), 0);
+            due("name(adddddddd)", with("syl add;syl ddd").name(code("adddddddd")), 1);
             due("names(1, 0)", x.names(1, 0), 1);
         });
         sentence("DAYS are 1 .. 400.", () -> {
@@ -121,6 +125,9 @@ final class ToldSentences extends Sentences {
             due("count(0)", x.count(0), 16);
             due("person(16, 0)", x.person(16, 0), UNKNOWN);
             due("person(-1, 0)", x.person(-1, 0), UNKNOWN);
+            SumNames later = with("first 1 -;first 2 -;child 0 1 3 -;first 4 -");
+            due("person(3, 1), a first one behind a child", later.person(3, 1), NONE);
+            due("person(3, 2), a first one behind a child", later.person(3, 2), NONE);
             SumNames two = with("first 1 -;first 2 -");
             marked(two, "child 0 1 3 -", "child 1 0 3 -;child 2 0 3 -", "child 0 ^2 3 -", "child ^2 0 3 -");
             marked(new SumNames(), "child ^0 1 3 -", "child ^1 0 3 -");
@@ -219,13 +226,14 @@ final class ToldSentences extends Sentences {
 
     private static void parts() {
         sentence("each is one of: letter X N. syl S. first D W. child P Q D W. call P W. hope D C. degrees N. forget.", () -> {
-            SumNames x = with("first 1 -;first 1 -", "letter q 7;syl q;first 17 q;child 0 1 24 qq;call 0 q;hope 17 5;degrees 2;forget");
-            tell(x, "first 1 -;first 1 -");
+            with("first 1 -;first 1 -", "letter q 7;syl q;first 17 q;child 0 1 24 qq;call 0 q;hope 17 5;degrees 2;forget");
             String[] parts = {"letter x 5", "syl s", "first 5 w", "child 0 1 5 w", "call 1 w", "hope 5 5", "degrees 3", "forget"};
             for (String line : parts) {
+                SumNames x = with("first 1 -;first 1 -");
                 String word = line.split(" ")[0];
                 String rest = line.substring(word.length());
                 marked(x, line, "^" + word.substring(0, word.length() - 1) + rest, "^" + word + "s" + rest, "^x" + word + rest);
+                marked(x, "^x" + word.substring(1) + rest, "^" + word.substring(0, word.length() - 1) + "x" + rest);
                 marked(x, line + " ^x", line + " ^5", line + "^-", line + " ^" + line);
                 for (int end = line.lastIndexOf(' '); end >= 0; end = line.lastIndexOf(' ', end - 1)) {
                     marked(x, line.substring(0, end) + "^", line.substring(0, end) + "^;forget");
@@ -304,6 +312,11 @@ final class ToldSentences extends Sentences {
             due("back(1), an image stays", x.back(1), 16);
             tell(x, "forget;forget");
             due("count(0), forgotten when there is nothing", x.count(0), 0);
+            SumNames twins = with("first 1 a;first 1 a;child 0 1 5 a;child 0 1 5 a", "forget;first 1 -;first 1 -;child 1 0 5 -;first 5 -");
+            due("person(2, 3), no twin of one forgotten", twins.person(2, 3), 1);
+            due("called(2), as told anew", twins.called(2), 0);
+            due("person(3, 1), as told anew", twins.person(3, 1), NONE);
+            due("person(3, 4), as told anew", twins.person(3, 4), 0);
         });
     }
 
