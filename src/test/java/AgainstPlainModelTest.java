@@ -1,9 +1,12 @@
+import java.util.Arrays;
 import java.util.Random;
 import java.util.TreeMap;
 
 /** Runs of calls drawn from a fixed seed, each answered by the class and by the plain model. */
 public final class AgainstPlainModelTest {
     private static final int RUNS = 1300;
+    // runs that begin with all that there can be: by chance a run hardly comes there
+    private static final int FULL_RUNS = 250;
     // beyond these an object may answer as it likes
     private static final int MOST_CALLS = 512;
     private static final int CALLS_OF_A_STEP = 60;
@@ -23,19 +26,21 @@ public final class AgainstPlainModelTest {
     private final int calm;
     // in adding runs all are called by words of their days, so that old names have ways
     private final boolean adding;
+    private final boolean full;
 
-    private AgainstPlainModelTest(int run) {
+    private AgainstPlainModelTest(int run, boolean full) {
         this.run = run;
+        this.full = full;
         random = new Random(7919L * run + 1);
-        alphabet = new int[] {2, 3, 4, 5, 8, 26}[random.nextInt(6)];
-        lastDay = new int[] {6, 12, 30, 60, 400}[random.nextInt(5)];
+        alphabet = new int[] {2, 3, 4, 5, 8, full ? 6 : 26}[random.nextInt(6)];
+        lastDay = new int[] {6, 12, 30, 60, 400}[random.nextInt(full ? 3 : 5)];
         calm = new int[] {10, 40, 200}[random.nextInt(3)];
         adding = random.nextInt(4) == 0;
     }
 
     public static void main(String[] args) {
-        for (int run = 0; run < RUNS && wrong < 20; run++) {
-            new AgainstPlainModelTest(run).go();
+        for (int run = 0; run < RUNS + FULL_RUNS && wrong < 20; run++) {
+            new AgainstPlainModelTest(run, run >= RUNS).go();
         }
         if (args.length > 0) {
             SEEN.forEach((k, v) -> System.out.println(k + " " + v));
@@ -60,7 +65,9 @@ public final class AgainstPlainModelTest {
             "nicknames -1", "nicknames 0", "nicknames +", "page -3", "page -4", "page -1", "page 0", "page +", "sheet -2",
             "sheet -3", "sheet -14", "sheet +", "tear -2", "tear +", "lay -2", "lay -11", "lay -13", "lay +", "copy -2",
             "copy -11", "copy -12", "copy -13", "copy +", "hope -2", "hope -3", "hope -11", "hope -12", "hope -13", "hope -4",
-            "hope -5", "hope +", "keep -2", "keep +", "back -2", "back -4", "back +", "count -3", "count -1", "count +"};
+            "hope -5", "hope +", "keep -2", "keep +", "back -2", "back -4", "back +", "count -3", "count -1", "count +",
+            "state: 16 persons", "state: 10 syllables", "state: 6 hopes", "state: a twin", "state: 100 names of a day or more",
+            "state: a letter of 0"};
         for (String kind : all) {
             if (!SEEN.containsKey(kind)) {
                 wrong++;
@@ -74,21 +81,37 @@ public final class AgainstPlainModelTest {
         made++;
         String name = call.substring(0, call.indexOf('('));
         String kind = want < 0 || want == 0 || name.equals("judge") ? Long.toString(want) : "+";
-        SEEN.merge(name + " " + kind, 1, Integer::sum);
+        seen(name + " " + kind);
         if (got != want) {
             wrong++;
             System.out.println("run " + run + ": " + call + " answered " + got + ", the model " + want);
         }
     }
 
+    private static void seen(String what) {
+        SEEN.merge(what, 1, Integer::sum);
+    }
+
+    private void seeState(int day) {
+        seen("state: " + m.s.persons.size() + " persons");
+        seen("state: " + m.s.syllables.size() + " syllables");
+        seen("state: " + m.s.hopes.size() + " hopes");
+        if (m.s.persons.stream().anyMatch(p -> p.kind == 2)) {
+            seen("state: a twin");
+        }
+        if (m.names(day, 0) >= 100) {
+            seen("state: 100 names of a day or more");
+        }
+        if (Arrays.stream(m.s.numbers).anyMatch(n -> n == 0)) {
+            seen("state: a letter of 0");
+        }
+    }
+
     private void go() {
-        for (int i = 0; i < 3; i++) {
-            String w = word(4);
-            writeAll("syl " + word(2) + ";syl " + word(1) + word(2) + ";first " + dayFor(w) + w);
-            due("fault()", x.fault(), m.fault());
-            due("told()", x.told(), m.told());
-            due("erase()", x.erase(), m.erase());
-            due("sheet(" + i + ", " + i + ", 8)", x.sheet(i, i, 8), m.sheet(i, i, 8));
+        if (full) {
+            fill();
+        } else {
+            begin();
         }
         while (made < MOST_CALLS - CALLS_OF_A_STEP && wrong < 20) {
             int kind = random.nextInt(10);
@@ -104,6 +127,70 @@ public final class AgainstPlainModelTest {
                 sheets();
             }
         }
+    }
+
+    private void begin() {
+        for (int i = 0; i < 3; i++) {
+            String w = word(4);
+            tell("syl " + word(2) + ";syl " + word(1) + word(2) + ";first " + dayFor(w) + w);
+            due("sheet(" + i + ", " + i + ", 8)", x.sheet(i, i, 8), m.sheet(i, i, 8));
+        }
+    }
+
+    private void tell(String text) {
+        writeAll(text);
+        due("fault()", x.fault(), m.fault());
+        due("told()", x.told(), m.told());
+        due("erase()", x.erase(), m.erase());
+    }
+
+    // ---- all that there can be
+
+    private void fill() {
+        int[] numbers = new int[][] {{1, 1}, {1, 2}, {0, 3}, {30, 70}}[below(4)];
+        StringBuilder letters = new StringBuilder("degrees " + (1 + below(4)));
+        for (int i = 0; i < Math.min(7, alphabet); i++) {
+            letters.append(";letter ").append((char) ('a' + i)).append(numbers[0] + below(numbers[1] - numbers[0] + 1));
+        }
+        tell(letters.toString());
+        while (m.s.syllables.size() < 10 && made < MOST_CALLS / 3) {
+            tell("syl " + plainWord(1 + below(3)));
+        }
+        while (m.s.persons.size() < 16 && made < MOST_CALLS / 2) {
+            tell(birth());
+        }
+        int n = 8 + below(13);
+        due("sheet(2, 2, " + n + ")", x.sheet(2, 2, n), m.sheet(2, 2, n));
+        for (int i = 0; i < 6; i++) {
+            int day = 1 + below(1 + below(lastDay));
+            due("lay(2, " + i + ", " + day + ")", x.lay(2, i, day), m.lay(2, i, day));
+        }
+        int c = 1 + below(10);
+        due("hope(2, 2, 1, 2, " + c + ")", x.hope(2, 2, 1, 2, c), m.hope(2, 2, 1, 2, c));
+        due("hope(2, 2, 2, 4, 5)", x.hope(2, 2, 2, 4, 5), m.hope(2, 2, 2, 4, 5));
+    }
+
+    /** Often a child of an earlier one's parents, the other way about, and on its day: twins hardly come by chance. */
+    private String birth() {
+        String w = calling();
+        int there = m.s.persons.size();
+        if (there < 2 || below(6) == 0) {
+            return "first " + dayFor(w) + " " + w;
+        }
+        PlainModel.Person like = m.s.persons.get(below(there));
+        if (like.kind == 0 || below(2) == 0) {
+            int p = below(there);
+            return "child " + p + " " + (p + 1 + below(there - 1)) % there + " " + dayFor(w) + " " + w;
+        }
+        return "child " + like.otherParent + " " + like.parent + " " + (below(3) > 0 ? like.day : dayFor(w)) + " " + w;
+    }
+
+    private String plainWord(int letters) {
+        StringBuilder b = new StringBuilder();
+        for (int i = 0; i < letters; i++) {
+            b.append((char) ('a' + below(alphabet)));
+        }
+        return b.toString();
     }
 
     private int below(int n) {
@@ -152,7 +239,7 @@ public final class AgainstPlainModelTest {
 
     private void writeAll(String text) {
         for (int from = 0; from < text.length() && made < MOST_CALLS - 8;) {
-            int n = Math.min(1 + below(8), text.length() - from);
+            int n = Math.min(full ? 8 : 1 + below(8), text.length() - from);
             long bytes = below(3) == 0 && n < 8 ? random.nextLong() << 8 * n : 0;
             for (int i = 0; i < n; i++) {
                 bytes |= (long) text.charAt(from + i) << 8 * i;
@@ -184,12 +271,7 @@ public final class AgainstPlainModelTest {
     }
 
     private String word(int most) {
-        int letters = rarely() ? 1 + below(11) : 1 + below(most);
-        StringBuilder b = new StringBuilder();
-        for (int i = 0; i < letters; i++) {
-            b.append((char) ('a' + below(alphabet)));
-        }
-        return b.toString();
+        return plainWord(rarely() ? 1 + below(11) : 1 + below(most));
     }
 
     /** Mostly a word made of syllables, or one that another person is called by. */
@@ -303,6 +385,7 @@ public final class AgainstPlainModelTest {
         int i = below(3) == 0 ? any(60) : any(3);
         int p = anyPerson();
         int q = anyPerson();
+        seeState(day);
         due("sum(" + c + ")", x.sum(c), m.sum(c));
         due("name(" + c + ")", x.name(c), m.name(c));
         due("names(" + day + ", 0)", x.names(day, 0), m.names(day, 0));
